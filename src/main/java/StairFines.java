@@ -207,11 +207,9 @@ public final class StairFines {
     // ---- years
 
     public int years(int n) {
-        if (!isWithin(n, 1, MOST_YEARS)) {
-            return found(BEYOND);
-        }
-        if (isTooLateFor(n)) {
-            return found(STATE);
+        int finding = againstYears(n, 1, MOST_YEARS);
+        if (finding != 0) {
+            return finding;
         }
         mountain.goYears(n);
         return mountain.wholePlaces();
@@ -237,11 +235,9 @@ public final class StairFines {
     // ---- on
 
     public long on(int n) {
-        if (!isWithin(n, 0, MOST_YEARS)) {
-            return found(BEYOND);
-        }
-        if (isTooLateFor(n)) {
-            return found(STATE);
+        int finding = againstYears(n, 0, MOST_YEARS);
+        if (finding != 0) {
+            return finding;
         }
         startTrial();
         trial.goYears(n);
@@ -249,11 +245,9 @@ public final class StairFines {
     }
 
     public int reachOn(int n) {
-        if (!isWithin(n, 0, MOST_YEARS)) {
-            return found(BEYOND);
-        }
-        if (isTooLateFor(n)) {
-            return found(STATE);
+        int finding = againstYears(n, 0, MOST_YEARS);
+        if (finding != 0) {
+            return finding;
         }
         startTrial();
         trial.goYears(n);
@@ -292,11 +286,9 @@ public final class StairFines {
     }
 
     public int farthest(int n) {
-        if (!isWithin(n, 0, MOST_YEARS)) {
-            return found(BEYOND);
-        }
-        if (isTooLateFor(n)) {
-            return found(STATE);
+        int finding = againstYears(n, 0, MOST_YEARS);
+        if (finding != 0) {
+            return finding;
         }
         startTrial();
         int farthest = trial.climb();
@@ -310,11 +302,12 @@ public final class StairFines {
     // ---- where, what first, for which sin
 
     public int best(int fine, int n) {
-        if (!mountain.hasFine(fine) || !isWithin(n, 1, MOST_TRIED_YEARS)) {
+        if (!mountain.hasFine(fine)) {
             return found(BEYOND);
         }
-        if (isTooLateFor(n)) {
-            return found(STATE);
+        int finding = againstYears(n, 1, MOST_TRIED_YEARS);
+        if (finding != 0) {
+            return finding;
         }
         int own = mountain.at[fine];
         int best = own;
@@ -338,11 +331,12 @@ public final class StairFines {
     }
 
     public int kind(int fine, int n) {
-        if (!mountain.hasFine(fine) || !isWithin(n, 1, MOST_TRIED_YEARS)) {
+        if (!mountain.hasFine(fine)) {
             return found(BEYOND);
         }
-        if (isTooLateFor(n)) {
-            return found(STATE);
+        int finding = againstYears(n, 1, MOST_TRIED_YEARS);
+        if (finding != 0) {
+            return finding;
         }
         int best = 0;
         int greatest = -1;
@@ -371,11 +365,9 @@ public final class StairFines {
     }
 
     public int needed(int n) {
-        if (!isWithin(n, 1, MOST_TRIED_YEARS)) {
-            return found(BEYOND);
-        }
-        if (isTooLateFor(n)) {
-            return found(STATE);
+        int finding = againstYears(n, 1, MOST_TRIED_YEARS);
+        if (finding != 0) {
+            return finding;
         }
         startTrial();
         trial.goYears(n);
@@ -424,11 +416,9 @@ public final class StairFines {
     }
 
     public int bears(int n) {
-        if (!isWithin(n, 1, MOST_YEARS)) {
-            return found(BEYOND);
-        }
-        if (isTooLateFor(n)) {
-            return found(STATE);
+        int finding = againstYears(n, 1, MOST_YEARS);
+        if (finding != 0) {
+            return finding;
         }
         for (int frost = MOST_FROST; frost >= 0; frost--) {
             startTrial();
@@ -577,11 +567,9 @@ public final class StairFines {
         if (sheet.isMissing()) {
             return found(MISSING);
         }
-        if (!isWithin(n, 0, MOST_YEARS)) {
-            return found(BEYOND);
-        }
-        if (isTooLateFor(n)) {
-            return found(STATE);
+        int finding = againstYears(n, 0, MOST_YEARS);
+        if (finding != 0) {
+            return finding;
         }
         startTrial();
         trial.goYears(n);
@@ -671,6 +659,14 @@ public final class StairFines {
 
     private boolean isTooLateFor(int years) {
         return mountain.year + years > LAST_YEAR;
+    }
+
+    /** The finding that stands against going on for n years; 0 if there is none. */
+    private int againstYears(int n, int least, int most) {
+        if (!isWithin(n, least, most)) {
+            return found(BEYOND);
+        }
+        return isTooLateFor(n) ? found(STATE) : 0;
     }
 
     private void startTrial() {

@@ -5,6 +5,7 @@ final class ImageTest extends Promises {
 
     public static void main(String[] args) {
         promise40to42();
+        cuttersAndYears();
         promise43();
         promise44();
         Checks.end();
@@ -63,6 +64,25 @@ final class ImageTest extends Promises {
         Checks.court(x, "fine 3 at 3;#");
         due("questions and faults don't touch the image", x.undo(), 3);
         same("undo", x, second);
+    }
+
+    private static void cuttersAndYears() {
+        StairFines x = stairOf("ffff");
+        x.fine(4, 9, 20);
+        String was = Checks.seen(x);
+        x.image();
+        x.years(3);
+        for (int place = 0; place < 4; place++) {
+            x.make(place, false, 0);
+            x.make(place, true, 1);
+        }
+        due("another cutter", x.placeOf(2, 3), 1);
+        due("another year", x.placeOf(2, 4), 7);
+        due("undo()", x.undo(), 2);
+        same("undo", x, was);
+        due("the cutter", x.placeOf(2, 3), 0);
+        due("the year", x.placeOf(2, 4), 2);
+        due("high", x.placeOf(2, 2), 11);
     }
 
     private static void promise43() {

@@ -1,5 +1,8 @@
 /** Promises 1 to 16: the mountain, fines, years. */
 final class MountainTest extends Promises {
+    /** Times 1103515245 this is 1, round as ints go: it leads from a z to the one ahead of it. */
+    private static final int INVERSE = inverse(1103515245);
+
     private MountainTest() {
     }
 
@@ -21,6 +24,14 @@ final class MountainTest extends Promises {
         promise14goingOn();
         promise15and16();
         Checks.end();
+    }
+
+    private static int inverse(int odd) {
+        int inverse = odd;
+        for (int i = 0; i < 5; i++) {
+            inverse *= 2 - odd * inverse;
+        }
+        return inverse;
     }
 
     private static void promise1() {
@@ -418,6 +429,24 @@ final class MountainTest extends Promises {
         x = stairOf("ff");
         due("no frost, no draws", x.years(9), 2);
         due("z", x.count(3), 1);
+        // z becomes 2617: its draw is 10 % 10 = 0.
+        x = stairOf("f");
+        x.let(0, 1);
+        x.seed((2617 - 12345) * INVERSE);
+        due("frost 1 takes a draw of 0", x.years(1), 0);
+        due("z", x.count(3), 2617);
+        // z becomes 2873: its draw is 11 % 10 = 1.
+        x = stairOf("f");
+        x.let(0, 1);
+        x.seed((2873 - 12345) * INVERSE);
+        due("frost 1 leaves a draw of 1", x.years(1), 1);
+        due("z", x.count(3), 2873);
+        // z becomes -1: its draw is 16777215 % 10 = 5.
+        x = stairOf("f");
+        x.let(0, 5);
+        x.seed((-1 - 12345) * INVERSE);
+        due("frost 5 leaves a draw of 5", x.years(1), 1);
+        due("z", x.count(3), -1);
         x = new StairFines();
         x.let(0, 9);
         x.fine(0, 1, 0);

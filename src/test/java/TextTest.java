@@ -89,6 +89,8 @@ final class TextTest extends Promises {
         due("0", x.placeOf(0, 0), 1);
         due("5", x.placeOf(5, 0), 2);
         due("37 to 39", x.placeOf(37, 0) * 100 + x.placeOf(38, 0) * 10 + x.placeOf(39, 0), 144);
+        due("rock 39", Checks.court(x, "rock 39 of 8"), 1);
+        due("38 and 39", x.placeOf(38, 0) * 10 + x.placeOf(39, 0), 48);
         due("the later holds", Checks.court(x, "rock 1 of 5;rock 1 of 6"), 2);
         due("1", x.placeOf(1, 0), 6);
         fault("rock 40 of 1", 5);
@@ -135,6 +137,13 @@ final class TextTest extends Promises {
         fault("fineat", 0);
         fault("finefine 3 at 1", 0);
         fault("fin 3 at 1", 0);
+        fault("wine 3 at 1", 0);
+        fault("finez 3 at 1", 0);
+        fault("afine 3 at 1", 0);
+        fault("`fine 3 at 1", 0);
+        fault("{fine 3 at 1", 0);
+        fault("frost :", 6);
+        fault("frost /", 6);
         fault("Fine 3 at 1", 0);
         fault("fine 3 AT 1", 7);
         fault("fine -3 at 1", 5);
@@ -147,6 +156,12 @@ final class TextTest extends Promises {
         StairFines y = new StairFines();
         due("all 120 bytes", Checks.court(y, "frost 1;".repeat(14) + "frost  8"), 15);
         due("frost", y.now(1), 8);
+        due("all 120 bytes, a word at the end", Checks.court(y, "frost 1;".repeat(14) + "frostxyz"), -113);
+        due("all 120 bytes, a number at the end", Checks.court(y, "frost 1;".repeat(14) + "frost108"), -118);
+        Checks.feed(y, "fine 33 at 11");
+        y.wipe();
+        due("what was wiped isn't read: fin", Checks.court(y, "fin"), -1);
+        due("what was wiped isn't read: 3", Checks.court(y, "fine 3"), -7);
         due("all 120 bytes, cut off", Checks.court(y, "frost 1;".repeat(15)), -121);
         due("frost", y.now(1), 8);
     }
