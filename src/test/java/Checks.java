@@ -52,12 +52,15 @@ final class Checks {
 
     /** Years go until YEAR is that. */
     static void goTo(StairFines x, int year) {
-        while (x.now(0) < year) {
-            x.years(Math.min(200, year - x.now(0)));
+        int now = x.now(0);
+        while (now < year) {
+            int n = Math.min(200, year - now);
+            x.years(n);
+            now += n;
         }
     }
 
-    /** All that can be seen of the state without a finding, but for status() and sheets. */
+    /** All that can be seen of the state without a finding, but for status() and sheets; some 250 calls at most. */
     static String seen(StairFines x) {
         StringBuilder s = new StringBuilder();
         for (int what = 0; what <= 4; what++) {
@@ -66,15 +69,17 @@ final class Checks {
         for (int what = 0; what <= 3; what++) {
             s.append(x.count(what)).append(' ');
         }
-        s.append(x.whole()).append(' ').append(x.reach()).append('\n');
+        long whole = x.whole();
+        s.append(whole).append(' ').append(x.reach()).append('\n');
         for (int place = 0; place < 40; place++) {
-            int most = x.placeOf(place, 1) == 1 ? 4 : 1;
-            for (int what = 0; what <= most; what++) {
+            s.append(x.placeOf(place, 0)).append(' ');
+            for (int what = 2; what <= 4 && (whole >> place & 1) == 1; what++) {
                 s.append(x.placeOf(place, what)).append(' ');
             }
         }
         s.append('\n');
-        for (int fine = 0; fine < x.count(0); fine++) {
+        int fines = x.count(0);
+        for (int fine = 0; fine < fines; fine++) {
             for (int what = 0; what <= 7; what++) {
                 s.append(x.of(fine, what)).append(' ');
             }

@@ -4,17 +4,17 @@ final class ImageTest extends Promises {
     }
 
     public static void main(String[] args) {
-        promise40to42();
+        promise40and41();
+        promise41again();
+        promise42();
         cuttersAndYears();
         promise43();
         promise44();
         Checks.end();
     }
 
-    private static void promise40to42() {
+    private static StairFines cutAndTurned() {
         StairFines x = new StairFines();
-        due("tear() of nothing", x.tear(), 0);
-        due("undo() of nothing", x.undo(), NONE);
         x.fine(3, 9, 4);
         x.fine(5, 9, 14);
         x.let(0, 2);
@@ -23,7 +23,13 @@ final class ImageTest extends Promises {
         x.years(5);
         x.turn(0, 4);
         x.set(0, 3, 7);
-        String was = Checks.seen(x);
+        return x;
+    }
+
+    private static void promise40and41() {
+        StairFines x = cutAndTurned();
+        String was = Checks.seen(cutAndTurned());
+        due("undo() of nothing", x.undo(), NONE);
         due("image()", x.image(), 1);
         same("image", x, was);
         x.fine(0, 1, 1);
@@ -39,31 +45,42 @@ final class ImageTest extends Promises {
         x.feed(0, 3);
         x.sheet(0, 8, 7);
         x.sheet(0, 9, 7);
-        String later = Checks.seen(x);
         due("undo()", x.undo(), 2);
         due("the tape stays", x.wipe(), 3);
         same("undo", x, was);
         due("sheets stay", x.lays(0), 0);
         due("status stays", x.status(-1), 2);
+    }
+
+    private static void promise41again() {
+        StairFines x = cutAndTurned();
+        x.image();
         x.years(3);
+        x.undo();
+        x.years(4);
         due("undo() again", x.undo(), 2);
-        same("undo", x, was);
+        same("undo", x, Checks.seen(cutAndTurned()));
         x.fine(0, 1, 1);
         x.image();
         String second = Checks.seen(x);
         x.years(1);
         due("undo() of the latest", x.undo(), 3);
         same("undo", x, second);
+    }
+
+    private static void promise42() {
+        StairFines x = cutAndTurned();
+        due("tear() of nothing", x.tear(), 0);
+        x.image();
         due("tear()", x.tear(), 1);
         due("tear() again", x.tear(), 0);
         due("undo()", x.undo(), NONE);
-        same("undo", x, second);
-        due("the seen differ", later.equals(was) ? 1 : 0, 0);
+        same("undo", x, Checks.seen(cutAndTurned()));
         x.on(100);
         x.image();
         Checks.court(x, "fine 3 at 3;#");
-        due("questions and faults don't touch the image", x.undo(), 3);
-        same("undo", x, second);
+        due("questions and faults don't touch the image", x.undo(), 2);
+        same("undo", x, Checks.seen(cutAndTurned()));
     }
 
     private static void cuttersAndYears() {

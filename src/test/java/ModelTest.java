@@ -163,7 +163,11 @@ final class ModelTest {
         }
     }
 
+    /** Calls beyond those that the document promises to answer aren't made. */
     private void call(String name, long... a) {
+        if (calls.size() >= CALLS) {
+            return;
+        }
         String told = name + Arrays.toString(a);
         calls.add(told);
         int wrong = Checks.wrongSoFar();

@@ -169,6 +169,10 @@ final class MountainTest extends Promises {
         x.make(1, false, 3);
         due("of(0, 7), one is broken", x.of(0, 7), 19);
         due("of(1, 7), one of the other's is broken", x.of(1, 7), 20);
+        x = new StairFines();
+        for (int kind = 0; kind < 6; kind++) {
+            x.fine(kind, 1, 0);
+        }
         String was = Checks.seen(x);
         due("of(-1, 0)", x.of(-1, 0), BEYOND);
         due("of(6, 0)", x.of(6, 0), BEYOND);

@@ -124,15 +124,20 @@ final class OnTest extends Promises {
         due("farthest(2)", x.farthest(2), 2);
         due("farthest(4)", x.farthest(4), 40);
         due("farthest(200)", x.farthest(200), 40);
-        x.years(4);
-        x.let(0, 9);
-        String was = Checks.seen(x);
+        x = passInFrost();
         due("farthest(0)", x.farthest(0), 40);
         due("farthest(200), though frost takes all", x.farthest(200), 40);
         due("reachOn(200)", x.reachOn(200), 0);
         due("farthest(-1)", x.farthest(-1), BEYOND);
         due("farthest(201)", x.farthest(201), BEYOND);
-        same("farthest", x, was);
+        same("farthest", x, Checks.seen(passInFrost()));
+    }
+
+    private static StairFines passInFrost() {
+        StairFines x = tenFines();
+        x.years(4);
+        x.let(0, 9);
+        return x;
     }
 
     private static void promise22() {
@@ -310,15 +315,13 @@ final class OnTest extends Promises {
     private static void promise28() {
         StairFines x = tenFines();
         due("bears(3)", x.bears(3), NONE);
-        for (int fine = 0; fine < 10; fine++) {
-            x.set(fine, 1, 40);
-            x.set(fine, 3, 9);
-        }
+        x = tenStrongFines();
+        String was = Checks.seen(x);
+        x.bears(200);
+        same("bears", x, was);
         for (int n = 1; n <= 200; n++) {
-            x.let(0, 3);
-            String was = Checks.seen(x);
+            x = tenStrongFines();
             int bears = x.bears(n);
-            same("bears", x, was);
             long due = NONE;
             for (int frost = 0; frost <= 9; frost++) {
                 x.let(0, frost);
@@ -339,6 +342,17 @@ final class OnTest extends Promises {
         due("bears(0)", x.bears(0), BEYOND);
         due("bears(201)", x.bears(201), BEYOND);
         due("bears(-1)", x.bears(-1), BEYOND);
+    }
+
+    /** Ten fines that cut again what frost takes, for a time. */
+    private static StairFines tenStrongFines() {
+        StairFines x = tenFines();
+        for (int fine = 0; fine < 10; fine++) {
+            x.set(fine, 1, 40);
+            x.set(fine, 3, 9);
+        }
+        x.let(0, 3);
+        return x;
     }
 
     /** A seed with whose first 40 draws the least is 1, found by the draws themselves. */

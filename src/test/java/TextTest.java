@@ -191,13 +191,11 @@ final class TextTest extends Promises {
     }
 
     private static void full() {
-        StairFines x = new StairFines();
-        for (int fine = 0; fine < 9; fine++) {
-            x.fine(0, 1, 0);
-        }
+        StairFines x = nineFines();
         String was = Checks.seen(x);
         due("an 11th in the text", Checks.court(x, "fine 1 at 1; alms 1 at 1"), -14);
         same("court", x, was);
+        x = nineFines();
         due("the 10th", Checks.court(x, "fine 1 at 1;frost 2"), 2);
         was = Checks.seen(x);
         due("an 11th, its own place ahead of later faults", Checks.court(x, "frost 3; saintly 99 # 1"), -10);
@@ -206,6 +204,14 @@ final class TextTest extends Promises {
         same("court", x, was);
         due("others may come", Checks.court(x, "frost 3"), 1);
         due("no findings", x.status(-1), 0);
+    }
+
+    private static StairFines nineFines() {
+        StairFines x = new StairFines();
+        for (int fine = 0; fine < 9; fine++) {
+            x.fine(0, 1, 0);
+        }
+        return x;
     }
 
     /** The text has its first fault there, and changes nothing. */

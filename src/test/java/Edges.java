@@ -1,0 +1,269 @@
+import java.util.Arrays;
+
+/**
+ * What the tests of boundary cases share. Each boundary case is a test of its own: it bears its promise's
+ * number and a name, and has new objects, none of which is asked for more than the 512 calls that are promised.
+ */
+class Edges extends Promises {
+    /** Makes an object in a state; asked twice it makes two that are alike. */
+    interface Maker {
+        StairFines make();
+    }
+
+    interface Body {
+        void look(StairFines x);
+    }
+
+    interface Call {
+        long ask(StairFines x);
+    }
+
+    interface CallWith {
+        long ask(StairFines x, int v);
+    }
+
+    interface Look {
+        String tell(StairFines x);
+    }
+
+    static final long ALL = 1099511627775L;
+    private static final int PROMISES = 44;
+    private static final int[] TESTS = new int[PROMISES + 1];
+    private static String current = "";
+
+    // ---- tests
+
+    static void test(int promise, String name, Maker maker, Body body) {
+        TESTS[promise]++;
+        current = "promise " + promise + ", " + name + ": ";
+        try {
+            body.look(maker.make());
+        } catch (RuntimeException e) {
+            due("no exception, but " + e, 1, 0);
+        }
+    }
+
+    static void test(int promise, String name, Body body) {
+        test(promise, name, StairFines::new, body);
+    }
+
+    /** A call that is no finding. */
+    static void answers(int promise, String name, long want, Maker maker, Call call) {
+        test(promise, name, maker, x -> {
+            int findings = x.status(-1);
+            due("the answer", call.ask(x), want);
+            due("findings", x.status(-1), findings);
+        });
+    }
+
+    /** A call answers a finding, counts it, and changes nothing else. */
+    static void refused(int promise, String name, long finding, Maker maker, Call call) {
+        test(promise, name, maker, x -> {
+            int[] counts = statuses(x);
+            due("the answer", call.ask(x), finding);
+            counts[0]++;
+            counts[(int) (Checks.BEYOND - finding) + 1]++;
+            due("it alone is counted", Arrays.equals(statuses(x), counts) ? 1 : 0, 1);
+            unchanged(maker, call);
+        });
+    }
+
+    /** A question that is answered changes nothing. */
+    static void changesNothing(int promise, Maker maker, Call call) {
+        test(promise, "nothing changes", maker, x -> {
+            call.ask(x);
+            unchanged(maker, call);
+        });
+    }
+
+    /** The first and the last value that a range takes, and those beyond at either end. */
+    static void range(int promise, String name, int least, int most, Maker maker, CallWith call) {
+        for (int v : new int[] {least, most}) {
+            test(promise, name + " " + v + " is taken", maker, x -> {
+                int findings = x.status(-1);
+                due("no finding, but " + call.ask(x, v), x.status(-1), findings);
+            });
+        }
+        for (int v : new int[] {least - 1, most + 1, MIN, MAX}) {
+            refused(promise, name + " " + v + " is BEYOND", BEYOND, maker, x -> call.ask(x, v));
+        }
+    }
+
+    /** Ends the tests of some promises, each of which must have had one. */
+    static void end(int first, int last) {
+        current = "";
+        for (int promise = first; promise <= last; promise++) {
+            due("promise " + promise + " has a test", TESTS[promise] > 0 ? 1 : 0, 1);
+        }
+        Checks.end();
+    }
+
+    static void due(String what, long got, long want) {
+        Checks.due(current + what, got, want);
+    }
+
+    /** All that is seen is what was seen. */
+    static void same(String what, StairFines x, String was) {
+        due(what, Checks.seen(x).equals(was) ? 1 : 0, 1);
+    }
+
+    /** Each look, which may change what it looks at, has an object that was asked and one that wasn't. */
+    private static void unchanged(Maker maker, Call call) {
+        unchanged("what is seen", Checks::seen, maker, call);
+        unchanged("the tape", Edges::tape, maker, call);
+        unchanged("the image", Edges::kept, maker, call);
+        unchanged("sheets", Edges::sheets, maker, call);
+    }
+
+    private static void unchanged(String what, Look look, Maker maker, Call call) {
+        StairFines asked = maker.make();
+        call.ask(asked);
+        due(what + ": as it was", look.tell(asked).equals(look.tell(maker.make())) ? 1 : 0, 1);
+    }
+
+    private static int[] statuses(StairFines x) {
+        int[] counts = new int[8];
+        for (int which = -1; which <= 6; which++) {
+            counts[which + 1] = x.status(which);
+        }
+        return counts;
+    }
+
+    /** What the tape holds, told by the court that it is. */
+    private static String tape(StairFines x) {
+        return x.count(1) + " " + x.court() + " " + Checks.seen(x);
+    }
+
+    private static String kept(StairFines x) {
+        return x.undo() + " " + Checks.seen(x) + " " + x.tear();
+    }
+
+    /** Numbers of all sheets, and their bits: copies of none tell them apart, and so does what is left of -2^62 + 7. */
+    private static String sheets(StairFines x) {
+        StringBuilder s = new StringBuilder();
+        for (int i = 0; i < 16; i++) {
+            s.append(x.copy(i / 4, 0, i % 4, 0, 0)).append(' ');
+        }
+        for (int sheet = 0; sheet < 4; sheet++) {
+            long was = 0;
+            for (int i = 0; i < 40 && was != MISSING && was != BEYOND; i++) {
+                was = x.write(sheet, i, 7 - (1L << 62));
+                s.append(was).append(' ');
+            }
+            s.append(x.write(sheet, 0, 0)).append('\n');
+        }
+        return s.toString();
+    }
+
+    // ---- states
+
+    /**
+     * Much has gone on here, so that a change shows. There are six FINES, one of each KIND, FINE 4 with WORK; the
+     * tape is a good text; an image is kept of three YEARS ago; sheets 0, 1, 2 have 8, 16, 64 bits and 40, 5, 0
+     * numbers, and sheet 3 is MISSING.
+     */
+    static StairFines rich() {
+        return richAt(6);
+    }
+
+    static StairFines richAt(int year) {
+        StairFines x = new StairFines();
+        Checks.goTo(x, year - 6);
+        for (int kind = 0; kind < 6; kind++) {
+            x.fine(kind, 9 + kind, 6 * kind);
+        }
+        x.rock(25, 9);
+        x.rock(33, 8);
+        x.let(1, 7);
+        x.seed(99);
+        x.years(3);
+        x.image();
+        x.let(0, 1);
+        x.years(3);
+        Checks.feed(x, "meets 3;rock 2 to 4 of 6");
+        x.sheet(0, 8, 40);
+        x.sheet(1, 16, 5);
+        x.sheet(2, 64, 0);
+        for (int i = 0; i < 5; i++) {
+            x.write(0, i, 1 + i);
+            x.write(1, i, 300 + i);
+        }
+        return x;
+    }
+
+    /** The same with ten FINES. */
+    static StairFines full() {
+        StairFines x = rich();
+        for (int fine = 6; fine < 10; fine++) {
+            x.fine(fine % 6, fine, fine);
+        }
+        return x;
+    }
+
+    /** A FINE that is paid, and a YEAR. */
+    static StairFines paidAt(int year) {
+        StairFines x = new StairFines();
+        Checks.goTo(x, year);
+        x.fine(0, 1, 0);
+        x.set(0, 1, 0);
+        return x;
+    }
+
+    /** A FINE that is paid, and all forty PLACES WHOLE, HIGH 10. */
+    static StairFines allWhole() {
+        return allWholeAt(0);
+    }
+
+    static StairFines allWholeAt(int year) {
+        StairFines x = paidAt(year);
+        for (int place = 0; place < 40; place++) {
+            x.make(place, true, 0);
+        }
+        return x;
+    }
+
+    /** All but some PLACES are WHOLE. */
+    static StairFines allBut(int... places) {
+        StairFines x = allWhole();
+        for (int place : places) {
+            x.make(place, false, 0);
+        }
+        return x;
+    }
+
+    /** A stair from PLACE 0 on of such HIGH (7 to 25; 0: not WHOLE), cut by FINE 0, which owes nothing then. */
+    static StairFines stair(int... highs) {
+        StairFines x = paidAt(0);
+        for (int place = 0; place < highs.length; place++) {
+            if (highs[place] > 0) {
+                cut(x, place, highs[place]);
+            }
+        }
+        return x;
+    }
+
+    /** FINE 0 cuts a STEP of that HIGH (7 to 25) in two YEARS, in ROCK that it asks for. */
+    static void cut(StairFines x, int place, int high) {
+        int kind = high < 9 ? 2 : high <= 17 ? 0 : 4;
+        int[] overRock = {8, 8, 6, 13, 16};
+        x.rock(place, high - overRock[kind]);
+        x.turn(0, kind);
+        x.set(0, 1, 1);
+        x.set(0, 2, place);
+        x.set(0, 3, 9);
+        x.years(2);
+        x.turn(0, 0);
+    }
+
+    /** All forty PLACES WHOLE, cut by one FINE: one HIGH at even PLACES, another one at odd ones (9 to 17). */
+    static StairFines zigzag(int even, int odd) {
+        StairFines x = new StairFines();
+        for (int place = 0; place < 40; place++) {
+            x.rock(place, (place % 2 == 0 ? even : odd) - 8);
+        }
+        x.fine(0, 40, 0);
+        x.set(0, 3, 9);
+        x.years(40);
+        return x;
+    }
+}
