@@ -89,6 +89,18 @@ class Edges extends Promises {
         }
     }
 
+    /** A call that asks for a FINE: where there are none, six, ten, and for those that there could be but aren't. */
+    static void numberOfFine(int promise, String name, Maker six, Maker ten, CallWith call) {
+        range(promise, name + "of six FINES number", 0, 5, six, call);
+        for (int v : new int[] {7, 9, 10}) {
+            refused(promise, name + "of six FINES number " + v + " is BEYOND", BEYOND, six, x -> call.ask(x, v));
+        }
+        range(promise, name + "of ten FINES number", 0, 9, ten, call);
+        for (int v : new int[] {0, 9}) {
+            refused(promise, name + "of no FINES number " + v + " is BEYOND", BEYOND, StairFines::new, x -> call.ask(x, v));
+        }
+    }
+
     /** Ends the tests of some promises, each of which must have had one. */
     static void end(int first, int last) {
         current = "";

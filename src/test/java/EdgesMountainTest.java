@@ -162,8 +162,7 @@ final class EdgesMountainTest extends Edges {
     }
 
     private static void promise5() {
-        range(5, "one of six FINES", 0, 5, Edges::rich, (x, v) -> x.of(v, 0));
-        range(5, "one of ten FINES", 0, 9, Edges::full, (x, v) -> x.of(v, 0));
+        numberOfFine(5, "", Edges::rich, Edges::full, (x, v) -> x.of(v, 0));
         range(5, "what", 0, 7, Edges::rich, (x, v) -> x.of(3, v));
         for (int what = 0; what <= 7; what++) {
             int w = what;
@@ -246,12 +245,9 @@ final class EdgesMountainTest extends Edges {
         range(6, "PLACE", 0, 39, Edges::rich, (x, v) -> x.set(4, 2, v));
         range(6, "ARM", 1, 9, Edges::rich, (x, v) -> x.set(4, 3, v));
         range(6, "what", 1, 3, Edges::rich, (x, v) -> x.set(4, v, 5));
-        range(6, "one of six FINES", 0, 5, Edges::rich, (x, v) -> x.set(v, 1, 5));
-        range(6, "one of ten FINES", 0, 9, Edges::full, (x, v) -> x.set(v, 3, 5));
-        for (int what = 1; what <= 3; what++) {
-            int w = what;
-            refused(6, "no FINES, what " + w, BEYOND, StairFines::new, x -> x.set(0, w, 1));
-        }
+        numberOfFine(6, "OWES, ", Edges::rich, Edges::full, (x, v) -> x.set(v, 1, 5));
+        numberOfFine(6, "PLACE, ", Edges::rich, Edges::full, (x, v) -> x.set(v, 2, 5));
+        numberOfFine(6, "ARM, ", Edges::rich, Edges::full, (x, v) -> x.set(v, 3, 5));
         refused(6, "all are BEYOND", BEYOND, Edges::rich, x -> x.set(6, 4, 41));
         test(6, "OWES 40, then 0: what it was", x -> {
             x.fine(0, 1, 0);
@@ -299,9 +295,7 @@ final class EdgesMountainTest extends Edges {
 
     private static void promise7() {
         range(7, "kind", 0, 5, Edges::rich, (x, v) -> x.turn(2, v));
-        range(7, "one of six FINES", 0, 5, Edges::rich, (x, v) -> x.turn(v, 3));
-        range(7, "one of ten FINES", 0, 9, Edges::full, (x, v) -> x.turn(v, 3));
-        refused(7, "no FINES", BEYOND, StairFines::new, x -> x.turn(0, 0));
+        numberOfFine(7, "", Edges::rich, Edges::full, (x, v) -> x.turn(v, 3));
         refused(7, "both are BEYOND", BEYOND, Edges::rich, x -> x.turn(6, 6));
         test(7, "the last KIND, the first, the first again", EdgesMountainTest::worked, x -> {
             due("0", x.turn(0, 5), 0);
@@ -323,12 +317,10 @@ final class EdgesMountainTest extends Edges {
                 refused(8, kind + " isn't one of " + as, KIND, EdgesMountainTest::six, x -> x.as(kind, as));
             }
         }
-        range(8, "one of six FINES", 0, 5, Edges::rich, (x, v) -> x.as(v, 0));
-        range(8, "one of ten FINES", 0, 9, Edges::full, (x, v) -> x.as(v, 0));
+        numberOfFine(8, "", Edges::rich, Edges::full, (x, v) -> x.as(v, 0));
         for (int kind : new int[] {-1, 6, MIN, MAX}) {
             refused(8, "kind " + kind + " is BEYOND", BEYOND, Edges::rich, x -> x.as(0, kind));
         }
-        refused(8, "no FINES", BEYOND, StairFines::new, x -> x.as(0, 0));
         refused(8, "no such one, as a KIND that others are not: BEYOND first", BEYOND, Edges::rich, x -> x.as(6, 4));
         refused(8, "both are BEYOND", BEYOND, Edges::rich, x -> x.as(-1, 6));
         answers(8, "one that OWES 0", 0, () -> paidAt(0), x -> x.as(0, 0));
@@ -402,11 +394,8 @@ final class EdgesMountainTest extends Edges {
     private static void promise11() {
         range(11, "PLACE, made", 0, 39, Edges::rich, (x, v) -> x.make(v, true, 0));
         range(11, "PLACE, broken", 0, 39, Edges::rich, (x, v) -> x.make(v, false, 0));
-        range(11, "one of six FINES, made", 0, 5, Edges::rich, (x, v) -> x.make(39, true, v));
-        range(11, "one of six FINES, broken", 0, 5, Edges::rich, (x, v) -> x.make(0, false, v));
-        range(11, "one of ten FINES", 0, 9, Edges::full, (x, v) -> x.make(39, true, v));
-        refused(11, "no FINES, made", BEYOND, StairFines::new, x -> x.make(0, true, 0));
-        refused(11, "no FINES, broken", BEYOND, StairFines::new, x -> x.make(0, false, 0));
+        numberOfFine(11, "made, ", Edges::rich, Edges::full, (x, v) -> x.make(39, true, v));
+        numberOfFine(11, "broken, ", Edges::rich, Edges::full, (x, v) -> x.make(0, false, v));
         refused(11, "both are BEYOND", BEYOND, Edges::rich, x -> x.make(40, true, 6));
         refused(11, "BEYOND, though it is WHOLE already", BEYOND, Edges::allWhole, x -> x.make(0, true, 1));
         refused(11, "BEYOND, though it is broken already", BEYOND, () -> allBut(0), x -> x.make(0, false, 1));

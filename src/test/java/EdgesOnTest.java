@@ -133,9 +133,7 @@ final class EdgesOnTest extends Edges {
     }
 
     private static void promise20() {
-        range(20, "one of six FINES", 0, 5, EdgesOnTest::payers, (x, v) -> x.paid(v));
-        range(20, "one of ten FINES", 0, 9, EdgesOnTest::tenPayers, (x, v) -> x.paid(v));
-        refused(20, "no FINES", BEYOND, StairFines::new, x -> x.paid(0));
+        numberOfFine(20, "", EdgesOnTest::payers, EdgesOnTest::tenPayers, (x, v) -> x.paid(v));
         answers(20, "in 0 YEARS", 0, () -> paidAt(0), x -> x.paid(0));
         answers(20, "in 1 YEAR", 1, EdgesOnTest::payers, x -> x.paid(0));
         answers(20, "in 200 YEARS", 200, () -> slow(5), x -> x.paid(0));

@@ -425,6 +425,15 @@ final class EdgesSheetTest extends Edges {
         answers(39, "a sheet of 0 numbers", 0, Edges::rich, x -> x.read(2));
         answers(39, "all forty are", 0, EdgesSheetTest::reader, x -> x.read(0));
         answers(39, "the only one is", 0, EdgesSheetTest::reader, x -> x.read(1));
+        for (int n : new int[] {0, 1, 39}) {
+            test(39, "a sheet of " + n + " numbers has no more, though REACH goes on", Edges::allWhole, x -> {
+                x.sheet(0, 16, n);
+                for (int i = 0; i < n; i++) {
+                    x.write(0, i, 40);
+                }
+                due("all are", x.read(0), 0);
+            });
+        }
         for (int i : new int[] {0, 1, 38, 39}) {
             test(39, "number " + i + " isn't", EdgesSheetTest::reader, x -> {
                 x.write(0, i, 41);

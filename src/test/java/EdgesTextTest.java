@@ -15,6 +15,7 @@ final class EdgesTextTest extends Edges {
         promise33faults();
         promise33endsTooEarly();
         promise33tokens();
+        promise33words();
         promise33bytes();
         promise33tenFines();
         promise33oneHundredAndTwenty();
@@ -322,6 +323,23 @@ final class EdgesTextTest extends Edges {
         fault("Frost 1", 0);
         fault("fRost 1", 0);
         fault("frost 1:", 7);
+    }
+
+    /** A word that is another by one letter, by one too few, by one too many. */
+    private static void promise33words() {
+        String[] items = {"fine 3 at 1 arm 3", "shared 3 at 1", "alms 3 at 1", "hasty 3 at 1", "feigned 3 at 1",
+            "saintly 3 at 1", "rock 1 to 2 of 3", "frost 3", "meets 3"};
+        for (String item : items) {
+            for (int i = 0; i < item.length(); i++) {
+                if (Character.isLetter(item.charAt(i))) {
+                    int word = item.lastIndexOf(' ', i) + 1;
+                    fault(item.substring(0, i) + "q" + item.substring(i + 1), word);
+                    fault(item.substring(0, i) + "q" + item.substring(i), word);
+                    fault(item.substring(0, i + 1) + "q" + item.substring(i + 1), word);
+                    fault(item.substring(0, i) + item.substring(i + 1), word);
+                }
+            }
+        }
     }
 
     /** Each of 256 bytes, alone and behind an item. */

@@ -39,10 +39,8 @@ final class EdgesWhereTest extends Edges {
     // ---- best
 
     private static void promise22() {
-        range(22, "one of six FINES", 0, 5, Edges::rich, (x, v) -> x.best(v, 3));
-        range(22, "one of ten FINES", 0, 9, Edges::full, (x, v) -> x.best(v, 1));
+        numberOfFine(22, "", Edges::rich, Edges::full, (x, v) -> x.best(v, 3));
         range(22, "n", 1, 100, Edges::rich, (x, v) -> x.best(4, v));
-        refused(22, "no FINES", BEYOND, StairFines::new, x -> x.best(0, 1));
         refused(22, "both are BEYOND", BEYOND, Edges::rich, x -> x.best(6, 101));
         refused(22, "no such FINE at YEAR 9999: BEYOND first", BEYOND, () -> richAt(9999), x -> x.best(6, 1));
         refused(22, "FINE -1 at YEAR 9999: BEYOND first", BEYOND, () -> richAt(9999), x -> x.best(-1, 1));
@@ -74,6 +72,7 @@ final class EdgesWhereTest extends Edges {
             x.set(0, 2, 0);
             due("with WORK 0 all are alike", x.best(0, 1), 0);
         });
+        answers(22, "it harms AT each PLACE: where it is", 12, EdgesWhereTest::harmful, x -> x.best(1, 3));
         test(22, "elsewhere WORK is 0", x -> {
             for (int place = 0; place < 40; place++) {
                 x.rock(place, 9);
@@ -97,6 +96,16 @@ final class EdgesWhereTest extends Edges {
         return x;
     }
 
+    /** FINE 0 would cut PLACE 5 well in three YEARS, but FINE 1 comes there from everywhere and cuts it too steep. */
+    private static StairFines harmful() {
+        StairFines x = allBut(5);
+        x.set(0, 1, 1);
+        x.set(0, 2, 5);
+        x.set(0, 3, 1);
+        x.fine(3, 1, 12);
+        return x;
+    }
+
     /** FINE 0 cuts 0 in the first YEAR, and FINE 1 cuts 1 if it is AT 0 or 1. */
     private static StairFines pair(int place) {
         StairFines x = new StairFines();
@@ -108,10 +117,8 @@ final class EdgesWhereTest extends Edges {
     // ---- kind
 
     private static void promise23() {
-        range(23, "one of six FINES", 0, 5, Edges::rich, (x, v) -> x.kind(v, 3));
-        range(23, "one of ten FINES", 0, 9, Edges::full, (x, v) -> x.kind(v, 1));
+        numberOfFine(23, "", Edges::rich, Edges::full, (x, v) -> x.kind(v, 3));
         range(23, "n", 1, 100, Edges::rich, (x, v) -> x.kind(4, v));
-        refused(23, "no FINES", BEYOND, StairFines::new, x -> x.kind(0, 1));
         refused(23, "both are BEYOND", BEYOND, Edges::rich, x -> x.kind(6, 101));
         refused(23, "no such FINE at YEAR 9999: BEYOND first", BEYOND, () -> richAt(9999), x -> x.kind(6, 1));
         refused(23, "FINE -1 at YEAR 9999: BEYOND first", BEYOND, () -> richAt(9999), x -> x.kind(-1, 1));
@@ -202,6 +209,7 @@ final class EdgesWhereTest extends Edges {
             return x;
         }, x -> x.needed(100));
         refused(25, "another does the same: as far without it", NONE, EdgesWhereTest::twins, x -> x.needed(1));
+        refused(25, "without one it is more, not less", NONE, EdgesWhereTest::harmful, x -> x.needed(3));
         answers(25, "FINE 0 alone", 0, () -> {
             StairFines x = new StairFines();
             x.fine(0, 1, 0);
@@ -349,7 +357,7 @@ final class EdgesWhereTest extends Edges {
         lastYears(28, 200, (x, v) -> x.bears(v));
         refused(28, "no FINES", NONE, StairFines::new, x -> x.bears(200));
         refused(28, "no FINES: BEYOND first", BEYOND, StairFines::new, x -> x.bears(0));
-        refused(28, "no FINES at YEAR 9999: STATE ahead of NONE", STATE, () -> paidAt(9999), x -> x.bears(1));
+        refused(28, "nothing WHOLE at YEAR 9999: STATE ahead of NONE", STATE, () -> paidAt(9999), x -> x.bears(1));
         refused(28, "all but one, and nobody OWES", NONE, () -> allBut(39), x -> x.bears(200));
         refused(28, "all WHOLE, two don't MEET", NONE, () -> zigzag(9, 14), x -> x.bears(1));
         test(28, "THE PASS in the last of the YEARS asked", x -> {
@@ -421,9 +429,7 @@ final class EdgesWhereTest extends Edges {
     // ---- alone
 
     private static void promise30() {
-        range(30, "one of six FINES", 0, 5, Edges::rich, (x, v) -> x.alone(v));
-        range(30, "one of ten FINES", 0, 9, Edges::full, (x, v) -> x.alone(v));
-        refused(30, "no FINES", BEYOND, StairFines::new, x -> x.alone(0));
+        numberOfFine(30, "", Edges::rich, Edges::full, (x, v) -> x.alone(v));
         answers(30, "all are WHOLE", 0, Edges::allWhole, x -> x.alone(0));
         answers(30, "one isn't", 1, () -> allBut(39), x -> x.alone(0));
         answers(30, "PLACE 0 isn't", 1, () -> allBut(0), x -> x.alone(0));
