@@ -281,6 +281,17 @@ final class EdgesYearsTest extends Edges {
             due("WHOLE", x.years(200), 40);
             due("z", x.count(3), 1);
         });
+        test(14, "FROST 0: no draw, though one works and others are WHOLE", EdgesYearsTest::one, x -> {
+            x.years(1);
+            due("WHOLE", x.years(20), 21);
+            due("z", x.count(3), 1);
+        });
+        test(14, "FROST that became 0: no draw", Edges::rich, x -> {
+            int z = x.count(3);
+            x.let(0, 0);
+            x.years(1);
+            due("z", x.count(3), z);
+        });
         test(14, "nothing WHOLE: no draw", x -> {
             x.let(0, 9);
             due("WHOLE", x.years(200), 0);
