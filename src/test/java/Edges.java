@@ -76,6 +76,18 @@ class Edges extends Promises {
         });
     }
 
+    /** What a call isn't said to change is as it was: each look is held against an object that wasn't asked. */
+    static void leaves(int promise, String name, Maker maker, Call call, Look... looks) {
+        test(promise, name, maker, x -> {
+            int findings = x.status(-1);
+            call.ask(x);
+            due("no finding", x.status(-1), findings);
+            for (int i = 0; i < looks.length; i++) {
+                unchanged("look " + i, looks[i], maker, call);
+            }
+        });
+    }
+
     /** The first and the last value that a range takes, and those beyond at either end. */
     static void range(int promise, String name, int least, int most, Maker maker, CallWith call) {
         for (int v : new int[] {least, most}) {
@@ -146,12 +158,24 @@ class Edges extends Promises {
         return x.count(1) + " " + x.court() + " " + Checks.seen(x);
     }
 
-    private static String kept(StairFines x) {
+    /** The bytes of the tape alone, where it is that of rich(): what its items set, whatever was there. */
+    static String bytes(StairFines x) {
+        return x.count(1) + " " + x.court() + " " + x.now(2) + x.placeOf(2, 0) + x.placeOf(3, 0) + x.placeOf(4, 0);
+    }
+
+    /** All that is seen but the tape. */
+    static String mountain(StairFines x) {
+        x.wipe();
+        return Checks.seen(x);
+    }
+
+    static String kept(StairFines x) {
+        x.wipe();
         return x.undo() + " " + Checks.seen(x) + " " + x.tear();
     }
 
     /** Numbers of all sheets, and their bits: copies of none tell them apart, and so does what is left of -2^62 + 7. */
-    private static String sheets(StairFines x) {
+    static String sheets(StairFines x) {
         StringBuilder s = new StringBuilder();
         for (int i = 0; i < 16; i++) {
             s.append(x.copy(i / 4, 0, i % 4, 0, 0)).append(' ');

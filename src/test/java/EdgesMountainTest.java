@@ -169,7 +169,39 @@ final class EdgesMountainTest extends Edges {
             refused(5, "no FINES, what " + w, BEYOND, StairFines::new, x -> x.of(0, w));
         }
         refused(5, "both are BEYOND", BEYOND, Edges::rich, x -> x.of(6, 8));
+        test(5, "KIND, the first to the last", EdgesMountainTest::six, x -> {
+            for (int kind = 0; kind < 6; kind++) {
+                due("KIND", x.of(kind, 0), kind);
+                x.turn(kind, 5 - kind);
+                due("KIND turned", x.of(kind, 0), 5 - kind);
+            }
+        });
         test(5, "it OWES 0", () -> paidAt(0), x -> due("OWES", x.of(0, 1), 0));
+        test(5, "it OWES 40", x -> due("OWES", x.fine(4, 40, 0) + x.of(0, 1), 40));
+        test(5, "the first PLACE and the last", x -> {
+            x.fine(0, 1, 0);
+            x.fine(0, 1, 39);
+            due("the first", x.of(0, 2), 0);
+            due("the last", x.of(1, 2), 39);
+        });
+        test(5, "ARM at first, the least, the greatest", x -> {
+            x.fine(0, 1, 0);
+            due("at first", x.of(0, 3), 3);
+            x.set(0, 3, 1);
+            due("the least", x.of(0, 3), 1);
+            x.set(0, 3, 9);
+            due("the greatest", x.of(0, 3), 9);
+        });
+        test(5, "WORK, from none to the most there can be", x -> {
+            x.rock(0, 9);
+            x.fine(0, 1, 0);
+            x.set(0, 3, 1);
+            for (int work = 0; work < 9; work++) {
+                due("WORK", x.of(0, 4), work);
+                x.years(1);
+            }
+            due("none again", x.of(0, 4), 0);
+        });
         test(5, "it cut none, one, all", () -> paidAt(0), x -> {
             due("none", x.of(0, 7), 0);
             x.make(39, true, 0);

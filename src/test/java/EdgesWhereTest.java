@@ -14,6 +14,7 @@ final class EdgesWhereTest extends Edges {
         promise28frost();
         promise29();
         promise30();
+        triedOneByOne();
         end(22, 30);
     }
 
@@ -73,6 +74,20 @@ final class EdgesWhereTest extends Edges {
             due("with WORK 0 all are alike", x.best(0, 1), 0);
         });
         answers(22, "it harms AT each PLACE: where it is", 12, EdgesWhereTest::harmful, x -> x.best(1, 3));
+        test(22, "where it is WORK counts, else it would be 6", EdgesWhereTest::workCounts, x -> {
+            due("WORK", x.of(1, 4), 6);
+            due("as it is", x.reachOn(2), 9);
+            due("where it is", x.best(1, 2), 5);
+            x.set(1, 2, 5);
+            due("with WORK 0", x.reachOn(2), 8);
+            due("AT 6, which is WHOLE, it comes to 7 at once", x.best(1, 2), 6);
+        });
+        test(22, "where it is WORK 0 isn't tried", EdgesWhereTest::workHarms, x -> {
+            due("as it is it cuts too steep", x.reachOn(1), 1);
+            due("elsewhere", x.best(0, 1), 1);
+            x.set(0, 2, 0);
+            due("with WORK 0 it would be as good where it is", x.best(0, 1), 0);
+        });
         test(22, "elsewhere WORK is 0", x -> {
             for (int place = 0; place < 40; place++) {
                 x.rock(place, 9);
@@ -83,6 +98,37 @@ final class EdgesWhereTest extends Edges {
             due("AT 0 it would not be enough", x.best(0, 1), 5);
             due("in three YEARS it is", x.best(0, 3), 0);
         });
+    }
+
+    /** PLACES 5, 7, 8 and so on aren't WHOLE; FINE 1 has all but cut 5, which FINE 0 does in two YEARS. */
+    private static StairFines workCounts() {
+        StairFines x = new StairFines();
+        x.fine(0, 40, 5);
+        x.fine(0, 40, 5);
+        x.rock(5, 9);
+        x.years(2);
+        x.set(0, 2, 5);
+        x.set(0, 3, 5);
+        for (int place : new int[] {0, 1, 2, 3, 4, 6}) {
+            x.make(place, true, 0);
+        }
+        x.let(1, 20);
+        return x;
+    }
+
+    /** Place 1 is 17 HIGH. FINE 0, HASTY, has all but cut 0 so that it doesn't MEET, and FINE 1, so that it does. */
+    private static StairFines workHarms() {
+        StairFines x = stair(0, 17);
+        x.rock(0, 9);
+        x.rock(2, 9);
+        x.fine(0, 1, 0);
+        x.years(1);
+        x.turn(0, 3);
+        x.set(0, 1, 1);
+        x.set(0, 2, 0);
+        x.set(0, 3, 3);
+        x.years(1);
+        return x;
     }
 
     /** FINE 0 cuts 38 in the second YEAR; FINE 1 can have cut 39 then only if it begins there. */
@@ -140,6 +186,13 @@ final class EdgesWhereTest extends Edges {
         answers(23, "6 in a YEAR of SHARED", 1, () -> weak(6), x -> x.kind(0, 1));
         answers(23, "7 in a YEAR of SAINTLY", 5, () -> weak(7), x -> x.kind(0, 1));
         answers(23, "8 in a YEAR of none: 0", 0, () -> weak(8), x -> x.kind(0, 1));
+        test(23, "WORK that is done counts", () -> weak(9), x -> {
+            x.turn(0, 0);
+            x.years(1);
+            due("6 more of SHARED", x.kind(0, 1), 1);
+            x.set(0, 2, 0);
+            due("with WORK 0 of none: 0", x.kind(0, 1), 0);
+        });
     }
 
     /** PLACE 0 is that HIGH, and STEPS must be alike; a strong FINE is AT 1, in that ROCK. */
@@ -393,6 +446,15 @@ final class EdgesWhereTest extends Edges {
                 due("bears(1)", x.bears(1), row[1]);
             });
         }
+        test(28, "n YEARS on, not at some time up to then", Edges::allWhole, x -> {
+            // With that seed FROST 4 takes none in the first YEAR, and some in the second.
+            x.seed(182631215);
+            x.let(0, 4);
+            due("REACH ON 1", x.reachOn(1), 40);
+            due("REACH ON 2", x.reachOn(2) < 40 ? 1 : 0, 1);
+            due("bears(1)", x.bears(1), 4);
+            due("bears(2)", x.bears(2) < 4 ? 1 : 0, 1);
+        });
         test(28, "the FROST there is now is no matter", Edges::allWhole, x -> {
             x.seed(182631215);
             x.let(0, 9);
@@ -477,5 +539,114 @@ final class EdgesWhereTest extends Edges {
             x.set(0, 1, 0);
             return x;
         }, x -> x.alone(0));
+    }
+
+    // ---- all that may be, tried on objects of their own
+
+    /** FINES at work on a stair that is all but whole, with FROST. */
+    private static StairFines tried(int seed) {
+        StairFines x = allBut(seed % 40, (seed * 7 + 3) % 40, (seed * 11 + 20) % 40);
+        x.let(0, seed % 3);
+        x.let(1, 8);
+        x.seed(seed * 12345);
+        x.rock(seed % 40, 9);
+        x.set(0, 2, seed % 40);
+        x.set(0, 1, 3);
+        x.fine(seed % 6, 5, (seed * 7) % 40);
+        x.fine(3, 2, (seed * 11) % 40);
+        x.years(1 + seed % 2);
+        return x;
+    }
+
+    private static int reachOf(int seed, int n, Call change) {
+        StairFines x = tried(seed);
+        change.ask(x);
+        return x.reachOn(n);
+    }
+
+    private static void triedOneByOne() {
+        for (int s = 1; s <= 30; s++) {
+            int seed = s;
+            int n = 1 + seed % 7;
+            test(22, "tried one by one, " + seed, () -> tried(seed), x -> due("best", x.best(1, n), bestOf(seed, n)));
+            test(23, "tried one by one, " + seed, () -> tried(seed), x -> due("kind", x.kind(1, n), kindOf(seed, n)));
+            test(24, "tried one by one, " + seed, () -> tried(seed), x -> due("mend", x.mend(), mendOf(seed)));
+            test(25, "tried one by one, " + seed, () -> tried(seed), x -> due("needed", x.needed(n), neededOf(seed, n)));
+            test(28, "tried one by one, " + seed, () -> tried(seed), x -> due("bears", x.bears(n), bearsOf(seed, n)));
+            test(29, "tried one by one, " + seed, () -> tried(seed), x -> due("meetsFor", x.meetsFor(seed), meetsOf(seed)));
+        }
+    }
+
+    private static long bestOf(int seed, int n) {
+        int own = tried(seed).of(1, 2);
+        int best = own;
+        int greatest = reachOf(seed, n, x -> 0);
+        for (int p = 0; p < 40; p++) {
+            int place = p;
+            int reach = place == own ? 0 : reachOf(seed, n, x -> x.set(1, 2, place));
+            if (reach > greatest) {
+                greatest = reach;
+                best = place;
+            }
+        }
+        return best;
+    }
+
+    private static long kindOf(int seed, int n) {
+        int best = 0;
+        for (int k = 1; k < 6; k++) {
+            int kind = k;
+            int soFar = best;
+            if (reachOf(seed, n, x -> x.turn(1, kind)) > reachOf(seed, n, x -> x.turn(1, soFar))) {
+                best = kind;
+            }
+        }
+        return best;
+    }
+
+    private static long mendOf(int seed) {
+        long mend = NONE;
+        int greatest = reachOf(seed, 0, x -> 0);
+        for (int p = 0; p < 40; p++) {
+            int place = p;
+            int reach = reachOf(seed, 0, x -> x.make(place, true, 0));
+            if (reach > greatest) {
+                greatest = reach;
+                mend = place;
+            }
+        }
+        return mend;
+    }
+
+    private static long neededOf(int seed, int n) {
+        long needed = NONE;
+        int least = reachOf(seed, n, x -> 0);
+        for (int f = 0; f < 3; f++) {
+            int fine = f;
+            int reach = reachOf(seed, n, x -> x.set(fine, 1, 0));
+            if (reach < least) {
+                least = reach;
+                needed = fine;
+            }
+        }
+        return needed;
+    }
+
+    private static long bearsOf(int seed, int n) {
+        long bears = NONE;
+        for (int f = 0; f <= 9; f++) {
+            int frost = f;
+            bears = reachOf(seed, n, x -> x.let(0, frost)) == 40 ? frost : bears;
+        }
+        return bears;
+    }
+
+    private static long meetsOf(int seed) {
+        long least = NONE;
+        for (int m = 20; m >= 0; m--) {
+            int meets = m;
+            least = reachOf(seed, 0, x -> x.let(1, meets)) >= seed ? meets : least;
+        }
+        return least;
     }
 }

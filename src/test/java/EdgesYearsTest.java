@@ -204,6 +204,28 @@ final class EdgesYearsTest extends Edges {
             x.years(1);
             due("it works on", x.of(0, 4), 6);
         });
+        test(14, "all are WHOLE, FROST draws, and it was at work: WORK stays", () -> allBut(17), x -> {
+            x.rock(17, 9);
+            x.set(0, 1, 40);
+            x.set(0, 2, 17);
+            x.years(1);
+            x.make(17, true, 0);
+            x.let(0, 1);
+            x.years(1);
+            due("PLACE", x.of(0, 2), 17);
+            due("WORK", x.of(0, 4), 3);
+        });
+        test(14, "the one ahead cuts the last PLACE: WORK of the next one stays", () -> allBut(30), x -> {
+            x.rock(30, 9);
+            x.set(0, 1, 2);
+            x.set(0, 2, 30);
+            x.fine(0, 2, 30);
+            x.years(2);
+            due("WORK of both is 6", x.of(0, 4) * 10 + x.of(1, 4), 66);
+            due("WHOLE", x.years(1), 40);
+            due("PLACE", x.of(1, 2), 30);
+            due("WORK", x.of(1, 4), 6);
+        });
         test(14, "the one ahead cuts the last PLACE: the next one stays", () -> allBut(30), x -> {
             x.set(0, 1, 2);
             x.set(0, 2, 30);
@@ -238,6 +260,37 @@ final class EdgesYearsTest extends Edges {
     }
 
     private static void promise14owes() {
+        test(14, "one that OWES nothing doesn't go on", () -> stair(11, 11), x -> {
+            x.set(0, 2, 0);
+            x.fine(0, 1, 9);
+            x.years(1);
+            due("PLACE", x.of(0, 2), 0);
+            x.years(1);
+            due("PLACE, when nobody OWES", x.of(0, 2), 0);
+        });
+        test(14, "one that OWES nothing keeps WORK", x -> {
+            x.rock(0, 9);
+            x.fine(0, 1, 0);
+            x.fine(0, 1, 9);
+            x.years(2);
+            x.set(0, 1, 0);
+            x.set(1, 1, 1);
+            x.make(0, true, 1);
+            x.years(1);
+            due("WORK", x.of(0, 4), 6);
+            due("PLACE", x.of(0, 2), 0);
+        });
+        for (int f = 0; f < 10; f++) {
+            int fine = f;
+            test(14, "FINE " + fine + " of ten alone OWES", x -> {
+                for (int other = 0; other < 10; other++) {
+                    x.fine(0, 1, 4 * other);
+                    x.set(other, 1, other == fine ? 1 : 0);
+                }
+                due("WHOLE", x.years(1), 1);
+                due("CUTTER", x.placeOf(4 * fine, 3), fine);
+            });
+        }
         test(14, "one that OWES 0 stays and doesn't work", () -> allBut(20), x -> {
             x.rock(20, 9);
             x.set(0, 2, 10);
