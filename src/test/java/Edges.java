@@ -1,4 +1,6 @@
 import java.util.Arrays;
+import java.util.TreeMap;
+import java.util.TreeSet;
 
 /**
  * What the tests of boundary cases share. Each boundary case is a test of its own: it bears its promise's
@@ -88,6 +90,19 @@ class Edges extends Promises {
         });
     }
 
+    /** Of all that is told of the mountain just that changes which is named: see told(). */
+    static void changesJust(int promise, String name, Maker maker, Call call, String... names) {
+        test(promise, name + " and no more", maker, x -> {
+            TreeMap<String, Integer> was = told(maker.make());
+            call.ask(x);
+            TreeMap<String, Integer> is = told(x);
+            TreeSet<String> changed = new TreeSet<>(was.keySet());
+            changed.addAll(is.keySet());
+            changed.removeIf(key -> was.containsKey(key) && was.get(key).equals(is.get(key)));
+            due("changed is " + changed, changed.equals(new TreeSet<>(Arrays.asList(names))) ? 1 : 0, 1);
+        });
+    }
+
     /** The first and the last value that a range takes, and those beyond at either end. */
     static void range(int promise, String name, int least, int most, Maker maker, CallWith call) {
         for (int v : new int[] {least, most}) {
@@ -143,6 +158,31 @@ class Edges extends Promises {
         StairFines asked = maker.make();
         call.ask(asked);
         due(what + ": as it was", look.tell(asked).equals(look.tell(maker.make())) ? 1 : 0, 1);
+    }
+
+    /** All that can be asked of the mountain, by the questions: "now 0", "place 39 4", "fine 5 7" and so on. */
+    private static TreeMap<String, Integer> told(StairFines x) {
+        TreeMap<String, Integer> told = new TreeMap<>();
+        for (int what = 0; what <= 4; what++) {
+            told.put("now " + what, x.now(what));
+        }
+        for (int what = 0; what <= 3; what++) {
+            told.put("count " + what, x.count(what));
+        }
+        long whole = x.whole();
+        for (int place = 0; place < 40; place++) {
+            told.put("place " + place + " 0", x.placeOf(place, 0));
+            for (int what = 2; what <= 4 && (whole >> place & 1) == 1; what++) {
+                told.put("place " + place + " " + what, x.placeOf(place, what));
+            }
+        }
+        int fines = x.count(0);
+        for (int fine = 0; fine < fines; fine++) {
+            for (int what = 0; what <= 7; what++) {
+                told.put("fine " + fine + " " + what, x.of(fine, what));
+            }
+        }
+        return told;
     }
 
     private static int[] statuses(StairFines x) {

@@ -27,6 +27,9 @@ final class KeepsTest extends Edges {
         tapeAlone();
         sheetsAlone();
         imagesAlone();
+        changes();
+        changesOfPlaces();
+        apart();
         end(1, 44);
     }
 
@@ -311,5 +314,151 @@ final class KeepsTest extends Edges {
         StairFines x = busy();
         x.image();
         return x;
+    }
+
+    // ---- just what is said
+
+    private static void changes() {
+        changesJust(2, "ROCK where FINE 0 is", KeepsTest::busy, x -> x.rock(33, 1), "place 33 0", "fine 0 6");
+        changesJust(2, "ROCK of a WHOLE PLACE", KeepsTest::busy, x -> x.rock(0, 9), "place 0 0");
+        changesJust(3, "FROST", KeepsTest::busy, x -> x.let(0, 9), "now 1");
+        changesJust(3, "MEETS", KeepsTest::busy, x -> x.let(1, 0), "now 2");
+        changesJust(4, "a FINE", KeepsTest::busy, x -> x.fine(5, 40, 39), "count 0", "now 4", "fine 6 0", "fine 6 1",
+            "fine 6 2", "fine 6 3", "fine 6 4", "fine 6 5", "fine 6 6", "fine 6 7");
+        for (int f = 0; f < 6; f++) {
+            String fine = "fine " + f + " ";
+            int it = f;
+            changesJust(6, "what FINE " + it + " OWES", KeepsTest::busy, x -> x.set(it, 1, 40), fine + 1, "now 4");
+            changesJust(6, "PLACE of FINE " + it, KeepsTest::busy, x -> x.set(it, 2, (it + 1) % 6 + 33), fine + 2, fine + 4);
+            changesJust(6, "ARM of FINE " + it, KeepsTest::busy, x -> x.set(it, 3, 9), fine + 3, fine + 5);
+            changesJust(7, "KIND of FINE " + it, KeepsTest::busy, x -> x.turn(it, (it + 3) % 6), fine + 0, fine + 5, fine + 6);
+        }
+        changesJust(15, "z", KeepsTest::busy, x -> x.seed(MIN), "count 3");
+        changesJust(14, "a YEAR in which all work and none cuts", KeepsTest::frostless, x -> x.years(1), "now 0",
+            "fine 0 4", "fine 1 4", "fine 2 4", "fine 3 4", "fine 4 4", "fine 5 4");
+        changesJust(14, "a YEAR in which FINE 3 cuts", KeepsTest::oneCuts, x -> x.years(1), "now 0", "now 3", "now 4",
+            "count 2", "place 36 2", "place 36 3", "place 36 4", "fine 3 1", "fine 3 4", "fine 3 7");
+        changesJust(14, "YEARS in which nobody OWES", KeepsTest::nobodyOwes, x -> x.years(200), "now 0");
+        changesJust(37, "ROCK of PLACES 0 to 2", KeepsTest::busy, x -> {
+            x.sheet(0, 8, 3);
+            for (int i = 0; i < 3; i++) {
+                x.write(0, i, 4 + i);
+            }
+            return x.lays(0);
+        }, "place 0 0", "place 1 0", "place 2 0");
+        changesJust(31, "bytes", KeepsTest::busy, x -> x.feed(0, 4), "count 1");
+        changesJust(32, "no bytes", KeepsTest::busy, x -> x.wipe(), "count 1");
+        changesJust(33, "ROCK of 2 to 4, MEETS and the tape", KeepsTest::busy, x -> x.court(), "count 1", "now 2",
+            "place 2 0", "place 3 0", "place 4 0");
+        changesJust(41, "back to what was kept, but for the tape", KeepsTest::keptNow, x -> {
+            x.let(0, 7);
+            x.wipe();
+            return x.undo();
+        }, "count 1");
+    }
+
+    private static void changesOfPlaces() {
+        changesJust(11, "PLACE 33 made by FINE 4", KeepsTest::busy, x -> x.make(33, true, 4), "now 3", "count 2",
+            "place 33 2", "place 33 3", "place 33 4", "fine 4 7");
+        changesJust(11, "PLACE 0 broken, which FINE 3 cut", KeepsTest::busy, x -> x.make(0, false, 4), "now 3", "count 2",
+            "place 0 2", "place 0 3", "place 0 4", "fine 3 7");
+    }
+
+    private static StairFines frostless() {
+        StairFines x = busy();
+        x.let(0, 0);
+        return x;
+    }
+
+    /** FINE 3 alone OWES, and is about to cut 36. */
+    private static StairFines oneCuts() {
+        StairFines x = nobodyOwes();
+        x.set(3, 1, 2);
+        x.set(3, 3, 9);
+        return x;
+    }
+
+    private static StairFines nobodyOwes() {
+        StairFines x = frostless();
+        for (int fine = 0; fine < 6; fine++) {
+            x.set(fine, 1, 0);
+        }
+        return x;
+    }
+
+    /** Sheets, the tape and an image, of which the numbers tell if they are changed; they are made last. */
+    private static StairFines lastly() {
+        StairFines x = busy();
+        x.sheet(3, 0, 0);
+        x.sheet(2, 64, 2);
+        x.write(2, 1, 1L << 40);
+        x.sheet(1, 16, 5);
+        x.write(1, 4, 65535);
+        x.sheet(0, 8, 40);
+        x.write(0, 39, 255);
+        x.image();
+        return x;
+    }
+
+    private static void apart(int promise, String name, Call call) {
+        test(promise, name + ", and sheets, the tape and the image", KeepsTest::lastly, x -> {
+            call.ask(x);
+            due("sheet 3", x.lays(3), MISSING);
+            due("sheets of 8 and 16 bits", x.copy(0, 0, 1, 0, 1), KIND);
+            due("sheets of 16 and 64 bits", x.copy(1, 0, 2, 0, 1), KIND);
+            due("sheet 0 has no more", x.write(0, 40, 0), BEYOND);
+            due("sheet 1 has no more", x.write(1, 5, 0), BEYOND);
+            due("sheet 2 has no more", x.write(2, 2, 0), BEYOND);
+            due("255 of 8 bits", x.write(0, 39, 255), -1);
+            due("it is of 8 bits still", x.write(0, 39, 0), -1);
+            due("65535 of 16 bits", x.write(1, 4, 65535), -1);
+            due("it is of 16 bits still", x.write(1, 4, 0), -1);
+            due("2^40 of 64 bits", x.write(2, 1, 1L << 40), 1L << 40);
+            due("it is of 64 bits still", x.write(2, 1, 0), 1L << 40);
+            due("the tape", x.count(1), 24);
+            due("its items", x.court(), 2);
+            due("MEETS", x.now(2), 3);
+            due("ROCK", x.placeOf(4, 0), 6);
+            due("the image", x.undo(), 6);
+            due("MEETS that was kept", x.now(2), 7);
+            due("it is kept still", x.tear(), 1);
+        });
+    }
+
+    private static void apart() {
+        apart(2, "rock()", x -> x.rock(39, 1));
+        apart(3, "let()", x -> x.let(0, 5) + x.let(1, 5));
+        apart(4, "fine()", x -> x.fine(0, 1, 0));
+        apart(5, "of()", x -> x.of(5, 5));
+        apart(6, "set()", x -> x.set(5, 1, 0) + x.set(5, 2, 0) + x.set(5, 3, 9));
+        apart(7, "turn()", x -> x.turn(5, 0));
+        apart(8, "as()", x -> x.as(5, 2));
+        apart(9, "placeOf()", x -> x.placeOf(0, 2));
+        apart(10, "whole()", x -> x.whole());
+        apart(11, "make()", x -> x.make(0, false, 0) + x.make(39, true, 0));
+        apart(12, "reach()", x -> x.reach());
+        apart(13, "faults()", x -> x.faults());
+        apart(14, "years()", x -> x.years(200));
+        apart(15, "seed()", x -> x.seed(7));
+        apart(16, "now()", x -> x.now(0) + x.now(1) + x.now(2) + x.now(3) + x.now(4));
+        apart(31, "feed()", x -> {
+            x.wipe();
+            Checks.feed(x, "meets 3;rock 2 to 4 of 6");
+            return 0;
+        });
+        apart(34, "sheet()", x -> {
+            x.sheet(3, 8, 40);
+            return x.sheet(3, 0, 0);
+        });
+        apart(35, "write()", x -> x.write(0, 0, 9));
+        apart(36, "copy()", x -> x.copy(0, 39, 0, 0, 1));
+        apart(37, "lays()", x -> x.lays(0));
+        apart(38, "stair()", x -> {
+            x.stair(0, 9);
+            return x.write(0, 39, 255);
+        });
+        apart(40, "image()", x -> x.image());
+        apart(41, "undo()", x -> x.undo());
+        apart(43, "count()", x -> x.count(0) + x.count(1) + x.count(2) + x.count(3));
     }
 }
