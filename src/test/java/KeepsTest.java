@@ -30,6 +30,7 @@ final class KeepsTest extends Edges {
         changes();
         changesOfPlaces();
         apart();
+        brimful();
         end(1, 44);
     }
 
@@ -460,5 +461,98 @@ final class KeepsTest extends Edges {
         apart(40, "image()", x -> x.image());
         apart(41, "undo()", x -> x.undo());
         apart(43, "count()", x -> x.count(0) + x.count(1) + x.count(2) + x.count(3));
+    }
+
+    // ---- with all that there can be
+
+    /** Ten FINES, each with WORK AT 15 to 24; the first and the last PLACES are WHOLE, each cut otherwise. */
+    private static StairFines brim() {
+        StairFines x = new StairFines();
+        for (int fine = 0; fine < 10; fine++) {
+            x.fine(fine % 6, 30, 4 * fine);
+            x.set(fine, 3, 9);
+            x.rock(4 * fine, 1 + fine % 9);
+            x.rock(15 + fine, 9);
+        }
+        x.years(1);
+        x.make(39, true, 9);
+        for (int fine = 0; fine < 10; fine++) {
+            x.make(15 + fine, false, 0);
+            x.set(fine, 2, 15 + fine);
+            x.set(fine, 3, 1 + fine % 3);
+        }
+        x.years(1);
+        x.make(1, true, 8);
+        x.make(38, true, 7);
+        return x;
+    }
+
+    /** All is made otherwise, as far as it can be in few calls. */
+    private static long wreck(StairFines x) {
+        for (int place : new int[] {0, 1, 38, 39}) {
+            x.make(place, false, 0);
+            x.rock(place, 2);
+        }
+        x.years(3);
+        for (int place : new int[] {0, 1, 38, 39}) {
+            x.make(place, true, 3);
+        }
+        for (int fine = 0; fine < 10; fine++) {
+            x.turn(fine, (fine + 1) % 6);
+            x.set(fine, 1, 2);
+            x.set(fine, 2, 5);
+            x.set(fine, 3, 7);
+        }
+        return x.let(0, 9) + x.let(1, 9) + x.seed(9);
+    }
+
+    private static void brimful() {
+        test(40, "the first FINE and PLACE and the last are kept", KeepsTest::brim, x -> {
+            x.image();
+            wreck(x);
+            x.undo();
+            same("all is as it was", x, Checks.seen(brim()));
+        });
+        test(41, "the first FINE and PLACE and the last come back", KeepsTest::brim, x -> {
+            String was = Checks.seen(brim());
+            due("it was another", wreck(brim()) > 0 ? 1 : 0, 1);
+            x.image();
+            wreck(x);
+            due("FINES", x.undo(), 10);
+            same("all is as it was", x, was);
+        });
+        test(33, "court() leaves the first FINE and PLACE and the last as they are", KeepsTest::brim, x -> {
+            Checks.court(x, "meets 4;frost 0");
+            same("all is as it was", x, Checks.seen(brim()));
+        });
+        for (int f = 0; f < 10; f++) {
+            int fine = f;
+            test(17, "WORK of FINE " + fine + " counts", () -> allButWorked(fine), x -> {
+                due("WHOLE ON 1", x.on(1), ALL);
+                due("WHOLE now", x.whole(), ALL & ~(1L << 39 - fine));
+            });
+            test(18, "WORK of FINE " + fine + " counts", () -> allButWorked(fine), x -> due("REACH", x.reachOn(1), 40));
+            test(38, "WORK of FINE " + fine + " counts", () -> allButWorked(fine), x -> {
+                x.sheet(0, 8, 40);
+                x.stair(0, 1);
+                due("HIGH", x.write(0, 39 - fine, 0), 17);
+            });
+        }
+    }
+
+    /** Of ten FINES one alone OWES; it has WORK 8 in ROCK 9, in the last PLACE that isn't WHOLE. */
+    private static StairFines allButWorked(int fine) {
+        StairFines x = allBut(39 - fine);
+        for (int other = 1; other < 10; other++) {
+            x.fine(0, 1, 0);
+            x.set(other, 1, 0);
+        }
+        x.rock(39 - fine, 9);
+        x.let(1, 20);
+        x.set(fine, 1, 1);
+        x.set(fine, 2, 39 - fine);
+        x.set(fine, 3, 1);
+        x.years(8);
+        return x;
     }
 }
