@@ -36,6 +36,7 @@ final class FaceTest {
         face();
         insides();
         source();
+        lengths();
         Checks.end();
     }
 
@@ -78,6 +79,7 @@ final class FaceTest {
         for (Class<?> c : all) {
             Checks.due(c.getName() + " is static", Modifier.isStatic(c.getModifiers()) ? 1 : 0, 1);
         }
+        Checks.due("no class without a name", StairFines.class.getResource("StairFines$1.class") == null ? 1 : 0, 1);
         all.add(StairFines.class);
         for (Class<?> c : all) {
             int fields = 0;
@@ -85,6 +87,8 @@ final class FaceTest {
                 fields += Modifier.isStatic(f.getModifiers()) ? 0 : 1;
                 if (Modifier.isStatic(f.getModifiers())) {
                     Checks.due("static " + f.getName() + " is final", Modifier.isFinal(f.getModifiers()) ? 1 : 0, 1);
+                    boolean isNumber = f.getType() == int.class || f.getType() == long.class;
+                    Checks.due("static " + f.getName() + " is a number", isNumber ? 1 : 0, 1);
                 }
             }
             Checks.due(c.getName() + " has few fields", fields <= 20 ? 1 : 0, 1);
@@ -113,5 +117,31 @@ final class FaceTest {
         }
         Checks.due("imports", imports, 1);
         Checks.due("package lines", s.startsWith("package") ? 1 : 0, 0);
+    }
+
+    /** Methods stay short; each ends with a brace that stands as far in as the line in which it begins. */
+    private static void lengths() throws Exception {
+        List<String> lines = Files.readAllLines(Path.of("src/main/java/StairFines.java"), StandardCharsets.US_ASCII);
+        int methods = 0;
+        for (int i = 0; i < lines.size(); i++) {
+            String line = lines.get(i);
+            if (!line.matches(" {4,8}[a-zA-Z][^=.;]*\\) \\{") || line.matches(" *(if|for|while|switch) .*")) {
+                continue;
+            }
+            methods++;
+            String end = line.substring(0, line.length() - line.stripLeading().length()) + "}";
+            int last = i;
+            while (last < lines.size() && !lines.get(last).equals(end)) {
+                last++;
+            }
+            Checks.due("lines of" + line, last - i < 60 ? 1 : 0, 1);
+        }
+        int due = 0;
+        List<Class<?>> all = new ArrayList<>(Arrays.asList(StairFines.class.getDeclaredClasses()));
+        all.add(StairFines.class);
+        for (Class<?> c : all) {
+            due += c.getDeclaredMethods().length;
+        }
+        Checks.due("methods and constructors looked at, of " + due + " methods", methods >= due ? 1 : 0, 1);
     }
 }
